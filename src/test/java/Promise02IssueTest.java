@@ -10,6 +10,7 @@ public final class Promise02IssueTest extends Checks {
         everyKindHitsOwned();
         writesOnLeasedCopyAreSent();
         noRoomOnlyWithoutCopy();
+        otherCoresCopiesTakeNoRoom();
         roomComesBackAfterEvict();
         fullByEntries();
         fullByEntriesAndPending();
@@ -119,6 +120,15 @@ public final class Promise02IssueTest extends Checks {
         run.due(run.x.issue(1, LOAD, 2, 0), SENT, "pending1: 10 1 2 0 -1 -1");
         run.due(run.x.issue(0, LOAD, 0, 0), DONE, "commits: 3", "log2: 0 1 0 0 0 1", "order: 0 1 2");
         run.due(run.x.issue(0, STORE, 0, 9), SENT, "pending0: 10 2 0 9 -1 -1");
+    }
+
+    private static void otherCoresCopiesTakeNoRoom() {
+        Run run = new Run(4, 8, 4, 1);
+        run.store(1, 0, 5);
+        run.load(2, 7);
+        run.due(run.x.issue(0, LOAD, 7, 0), SENT, "pending0: 10 1 7 0 -1 -1");
+        run.due(run.x.issue(3, STORE, 7, 6), SENT, "pending3: 10 2 7 6 -1 -1");
+        run.due(run.x.issue(1, LOAD, 7, 0), NO_ROOM);
     }
 
     private static void roomComesBackAfterEvict() {
