@@ -108,6 +108,26 @@ abstract class Checks {
         return rows;
     }
 
+    /**
+     * A state with a message of every kind in flight, in which a change that is not due is easily seen.
+     * Core 0 owns line 0 (7, written at 1), and a recall for it flies. A write-back of line 1 flies (8,
+     * written at 1). Core 1 asks to LOAD line 0; a reply flies to core 2, which is to STORE 5 in line 4.
+     * Core 3 is idle, its clock 1; it has line 2 leased (until 4) and owns line 3 (9, written at 1).
+     */
+    static Run busy() {
+        Run run = new Run(4, 8, 4, 4);
+        run.store(0, 0, 7);
+        run.store(0, 1, 8);
+        run.load(3, 2);
+        run.store(3, 3, 9);
+        run.given(run.x.evict(0, 1), RETURNED);
+        run.given(run.x.issue(1, LOAD, 0, 0), SENT);
+        run.given(run.x.deliverRequest(1), BOUNCED);
+        run.given(run.x.issue(2, STORE, 4, 5), SENT);
+        run.given(run.x.deliverRequest(2), SUPPLIED);
+        return run;
+    }
+
     /** One object and what its getters told after the last call. */
     static final class Run {
         final TimestampCoherence x;
@@ -154,6 +174,12 @@ abstract class Checks {
             int answer = x.deliverRequest(core);
             same(answer == RENEWED || answer == SUPPLIED, true);
             given(x.deliverReply(core), DONE);
+        }
+
+        /** The core gives up a line that it owns, and the home gets the write-back. */
+        void giveBack(int core, int address) {
+            given(x.evict(core, address), RETURNED);
+            given(x.deliverWriteBack(address), DONE);
         }
 
         /** Moves a clock that is 0 to the given time, in as many calls as that takes. */

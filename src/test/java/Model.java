@@ -234,7 +234,8 @@ final class Model {
         List<Integer> order = new ArrayList<>();
         for (int i = 0; i < log.size(); i++) {
             Entry e = log.get(i);
-            rows.put("log" + i, e.core + " " + e.kind + " " + e.address + " " + e.operand + " " + e.value + " " + e.time);
+            rows.put("log" + i, e.core + " " + e.kind + " " + e.address + " " + e.operand
+                    + " " + e.value + " " + e.time);
             order.add(i);
         }
         order.sort(Comparator.comparingInt(i -> log.get(i).time));

@@ -6,7 +6,6 @@ import java.util.TreeMap;
 public final class ModelTest extends Checks {
     private static final int RUNS = 150;
     private static final int CALLS = 700;
-    private static final int[] OPERANDS = {LOWEST, -1, 0, 1, 2, 1000, HIGHEST};
 
     private static final Map<String, Integer> ANSWERS = new TreeMap<>();
 
@@ -28,47 +27,18 @@ public final class ModelTest extends Checks {
         // Mostly short steps, to keep the clocks near the leases; long ones, to come to the clock's limit.
         int longest = random.nextInt(4) == 0 ? 66 : 5;
         for (int i = 0; i < CALLS; i++) {
-            int core = picked(random, Math.max(2, Math.min(4, cores)));
-            int address = picked(random, Math.max(1, Math.min(8, lines)));
-            step(x, model, random, core, address, longest);
-            Map<String, String> got = told(x);
+            int[] call = Calls.picked(
+                    random, Math.max(2, Math.min(4, cores)), Math.max(1, Math.min(8, lines)), longest);
+            int got = Calls.made(x, call);
+            same(got, Calls.made(model, call));
+            ANSWERS.merge(Calls.METHODS[call[0]] + " " + got, 1, Integer::sum);
+            Map<String, String> rows = told(x);
             Map<String, String> want = model.told();
-            if (!got.equals(want)) {
-                same(got, want);
+            if (!rows.equals(want)) {
+                same(rows, want);
                 return;
             }
         }
-        same(told(x), model.told());
-    }
-
-    /** A good number, or now and then the one below or above. */
-    private static int picked(Random random, int count) {
-        return random.nextInt(40) == 0 ? (random.nextBoolean() ? -1 : count) : random.nextInt(count);
-    }
-
-    private static void step(
-            TimestampCoherence x, Model model, Random random, int core, int address, int longest) {
-        switch (random.nextInt(12)) {
-            case 0, 1, 2, 3 -> {
-                int kind = random.nextInt(30) == 0 ? random.nextInt(6) - 1 : random.nextInt(3) + 1;
-                int operand = OPERANDS[random.nextInt(OPERANDS.length)];
-                both("issue", x.issue(core, kind, address, operand), model.issue(core, kind, address, operand));
-            }
-            case 4 -> both("evict", x.evict(core, address), model.evict(core, address));
-            case 5 -> {
-                int steps = longest - random.nextInt(6);
-                both("advance", x.advance(core, steps), model.advance(core, steps));
-            }
-            case 6, 7 -> both("deliverRequest", x.deliverRequest(core), model.deliverRequest(core));
-            case 8, 9 -> both("deliverReply", x.deliverReply(core), model.deliverReply(core));
-            case 10 -> both("deliverRecall", x.deliverRecall(core, address), model.deliverRecall(core, address));
-            default -> both("deliverWriteBack", x.deliverWriteBack(address), model.deliverWriteBack(address));
-        }
-    }
-
-    private static void both(String method, int got, int want) {
-        same(got, want);
-        ANSWERS.merge(method + " " + got, 1, Integer::sum);
     }
 
     /** Runs that never reach an answer would compare nothing there. */
@@ -82,14 +52,12 @@ public final class ModelTest extends Checks {
             {BAD, NOTHING, YIELDED, IGNORED},
             {BAD, NOTHING, DONE},
         };
-        String[] methods = {
-            "issue", "evict", "advance", "deliverRequest", "deliverReply", "deliverRecall", "deliverWriteBack"};
         int kinds = 0;
-        for (int i = 0; i < methods.length; i++) {
+        for (int i = 0; i < answers.length; i++) {
             for (int answer : answers[i]) {
                 kinds++;
-                same(methods[i] + " " + answer + ": " + ANSWERS.containsKey(methods[i] + " " + answer),
-                        methods[i] + " " + answer + ": true");
+                String name = Calls.METHODS[i] + " " + answer;
+                same(name + ": " + ANSWERS.containsKey(name), name + ": true");
             }
         }
         same(ANSWERS.size(), kinds);

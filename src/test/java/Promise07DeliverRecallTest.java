@@ -9,6 +9,10 @@ public final class Promise07DeliverRecallTest extends Checks {
         leasedCopyIgnores();
         oldRecallReachesANewOwner();
         pendingMakesNoDifference();
+        recallIsGone();
+        laterLeaseIgnores();
+        otherLinesAreNotTouched();
+        changesNothingElse();
         finish();
     }
 
@@ -21,6 +25,7 @@ public final class Promise07DeliverRecallTest extends Checks {
         return run;
     }
 
+    /** "1. Bad core or address: BAD." */
     private static void badArguments() {
         Run run = recalled();
         for (int core : new int[] {LOWEST, -1, 2, 4, HIGHEST}) {
@@ -31,6 +36,7 @@ public final class Promise07DeliverRecallTest extends Checks {
         }
     }
 
+    /** "2. No such recall in flight: NOTHING." */
     private static void nothingWithoutRecall() {
         Run run = recalled();
         run.due(run.x.deliverRecall(0, 1), NOTHING);
@@ -40,6 +46,7 @@ public final class Promise07DeliverRecallTest extends Checks {
         run.due(run.x.deliverRecall(0, 0), NOTHING);
     }
 
+    /** "If core's copy of the line is OWNED, it becomes LEASED with the same times": YIELDED. */
     private static void ownedCopyYields() {
         Run run = recalled();
         run.given(run.x.advance(0, 9), DONE);
@@ -49,6 +56,7 @@ public final class Promise07DeliverRecallTest extends Checks {
         run.due(run.x.deliverWriteBack(0), DONE, "line0: -1 1 10 7 7 -1");
     }
 
+    /** The same: the copy is LEASED, so a LOAD still hits it and a write does not. */
     private static void yieldedCopyStaysReadable() {
         Run run = recalled();
         run.given(run.x.deliverRecall(0, 0), YIELDED);
@@ -56,6 +64,7 @@ public final class Promise07DeliverRecallTest extends Checks {
         run.due(run.x.issue(0, STORE, 0, 3), SENT, "pending0: 10 2 0 3 -1 -1");
     }
 
+    /** "If core has no copy of the line or a LEASED one, nothing else changes: IGNORED." None. */
     private static void absentCopyIgnores() {
         Run run = recalled();
         run.given(run.x.evict(0, 0), RETURNED);
@@ -64,6 +73,7 @@ public final class Promise07DeliverRecallTest extends Checks {
         run.due(run.x.deliverWriteBack(0), DONE, "line0: -1 1 1 7 7 -1");
     }
 
+    /** The same: a LEASED one. */
     private static void leasedCopyIgnores() {
         Run run = recalled();
         run.given(run.x.deliverRecall(0, 0), YIELDED);
@@ -72,14 +82,15 @@ public final class Promise07DeliverRecallTest extends Checks {
         same(run.x.copy(0, 0, STATE), LEASED);
     }
 
+    /** "If core's copy of the line is OWNED": also a copy made after the recall was sent. */
     private static void oldRecallReachesANewOwner() {
         Run run = recalled();
-        run.given(run.x.evict(0, 0), RETURNED);
-        run.given(run.x.deliverWriteBack(0), DONE);
+        run.giveBack(0, 0);
         run.store(0, 0, 20);
         run.due(run.x.deliverRecall(0, 0), YIELDED, "copy0.0: 1 2 2 20", "line0: 0 1 1 7 20 2", "recall0.0: false");
     }
 
+    /** "A pending operation of core makes no difference and does not change." */
     private static void pendingMakesNoDifference() {
         Run run = recalled();
         run.given(run.x.issue(0, LOAD, 1, 0), SENT);
@@ -93,5 +104,46 @@ public final class Promise07DeliverRecallTest extends Checks {
         run.due(run.x.deliverRecall(0, 0), IGNORED, "recall0.0: false");
         run.given(run.x.deliverReply(0), DONE);
         same(run.x.copy(0, 0, STATE), OWNED);
+    }
+
+    /** "2. ... NOTHING": "Otherwise the recall is gone", so it is delivered once. */
+    private static void recallIsGone() {
+        Run run = recalled();
+        run.given(run.x.deliverRecall(0, 0), YIELDED);
+        run.due(run.x.deliverRecall(0, 0), NOTHING);
+        run = recalled();
+        run.given(run.x.evict(0, 0), RETURNED);
+        run.given(run.x.deliverRecall(0, 0), IGNORED);
+        run.due(run.x.deliverRecall(0, 0), NOTHING);
+    }
+
+    /** "core has ... a LEASED one": a lease taken after the line was given back. */
+    private static void laterLeaseIgnores() {
+        Run run = new Run(3, 1, 4, 1);
+        run.store(0, 0, 7);
+        run.given(run.x.issue(1, LOAD, 0, 0), SENT);
+        run.given(run.x.deliverRequest(1), BOUNCED);
+        run.giveBack(0, 0);
+        run.load(0, 0);
+        run.due(run.x.deliverRecall(0, 0), IGNORED, "recall0.0: false");
+        same(told(run.x).get("copy0.0"), "1 1 5 7");
+        run.due(run.x.deliverWriteBack(0), NOTHING);
+    }
+
+    /** "no copy of the line": other copies of the core, also OWNED ones, are not touched. */
+    private static void otherLinesAreNotTouched() {
+        Run run = recalled();
+        run.store(0, 1, 9);
+        run.due(run.x.deliverRecall(0, 0), YIELDED, "copy0.0: 1 1 1 7", "line0: 0 0 0 0 7 1", "recall0.0: false");
+        same(told(run.x).get("copy0.1"), "2 1 1 9");
+    }
+
+    /** "The home (owner included), clocks, the log, other copies and other messages do not change." */
+    private static void changesNothingElse() {
+        Run run = busy();
+        run.due(run.x.deliverRecall(0, 0), YIELDED, "copy0.0: 1 1 1 7", "line0: 0 0 0 0 7 1", "recall0.0: false");
+        run = busy();
+        run.given(run.x.evict(0, 0), RETURNED);
+        run.due(run.x.deliverRecall(0, 0), IGNORED, "recall0.0: false");
     }
 }
