@@ -5,7 +5,9 @@ import java.lang.reflect.Modifier;
 import java.nio.file.Files;
 import java.nio.file.Path;
 import java.util.Arrays;
+import java.util.Map;
 import java.util.Set;
+import java.util.TreeMap;
 import java.util.TreeSet;
 import java.util.regex.Matcher;
 import java.util.regex.Pattern;
@@ -42,6 +44,10 @@ public final class LanguageTest extends Checks {
         noForbiddenWord(code);
         arraysAreMadeInInitialisers(code);
         noCallInsideArguments(code);
+        everyLoopCounts(code);
+        Map<String, String> bodies = bodies(code);
+        methodsStayShort(bodies);
+        callsEndAndStayShallow(bodies);
         finish();
     }
 
@@ -127,19 +133,81 @@ public final class LanguageTest extends Checks {
         Matcher call = Pattern.compile("(\\w+)\\s*\\(").matcher(code);
         while (call.find()) {
             if (!call.group(1).matches("if|for|while|switch|return")) {
-                String arguments = argumentsFrom(code, call.end());
+                String arguments = enclosed(code, call.end(), '(', ')');
                 same(call.group(1) + "(" + arguments.replaceAll("\\w+\\s*\\(", "CALL("),
                         call.group(1) + "(" + arguments);
             }
         }
     }
 
-    private static String argumentsFrom(String code, int start) {
+    /** Rule 8, in its plainest form: a counter goes up by one to a bound that the loop does not change. */
+    private static void everyLoopCounts(String code) {
+        same(Pattern.compile("\\b(while|do)\\b").matcher(code).find(), false);
+        Matcher loop = Pattern.compile("\\bfor \\((.*)\\) \\{").matcher(code);
+        while (loop.find()) {
+            String body = enclosed(code, loop.end(), '{', '}');
+            Matcher head = Pattern.compile("int (\\w+) = 0; \\1 < (\\w+); \\1\\+\\+").matcher(loop.group(1));
+            same(loop.group(1) + " counts: " + head.matches(), loop.group(1) + " counts: true");
+            if (head.matches()) {
+                String changed = "\\b(" + head.group(1) + "|" + head.group(2) + ")\\s*(\\+\\+|--|[-+*/%&|^]?=[^=])";
+                same(Pattern.compile(changed).matcher(body).find(), false);
+            }
+        }
+    }
+
+    /** Each method's and the constructor's text, by name. */
+    private static Map<String, String> bodies(String code) {
+        Map<String, String> bodies = new TreeMap<>();
+        String form = "(?ms)^    (?:public|private) [^;=]*?(\\w+)\\([^)]*\\) \\{$(.*?)^    \\}$";
+        Matcher method = Pattern.compile(form).matcher(code);
+        while (method.find()) {
+            same(method.group(1) + " " + bodies.put(method.group(1), method.group(2)), method.group(1) + " null");
+        }
+        same(bodies.size(), CLASS.getDeclaredMethods().length + 1);
+        return bodies;
+    }
+
+    /** Rule 10: "Methods stay short (some sixty lines)" */
+    private static void methodsStayShort(Map<String, String> bodies) {
+        for (Map.Entry<String, String> method : bodies.entrySet()) {
+            same(method.getKey() + " is short: " + (method.getValue().lines().count() <= 60),
+                    method.getKey() + " is short: true");
+        }
+    }
+
+    /** Rule 8: "No recursion", and rule 10: "calls go at most six deep". A path of calls that recurs is longer. */
+    private static void callsEndAndStayShallow(Map<String, String> bodies) {
+        Set<String> reached = new TreeSet<>(bodies.keySet());
+        int deep = 0;
+        while (!reached.isEmpty() && deep <= 6) {
+            deep++;
+            Set<String> next = new TreeSet<>();
+            for (String name : reached) {
+                next.addAll(calledIn(bodies.get(name), bodies.keySet()));
+            }
+            reached = next;
+        }
+        same(deep <= 6 ? "at most six deep" : "too deep: " + reached, "at most six deep");
+    }
+
+    private static Set<String> calledIn(String body, Set<String> names) {
+        Set<String> called = new TreeSet<>();
+        Matcher call = Pattern.compile("(\\w+)\\s*\\(").matcher(body);
+        while (call.find()) {
+            if (names.contains(call.group(1))) {
+                called.add(call.group(1));
+            }
+        }
+        return called;
+    }
+
+    /** The text from just behind an opening bracket up to the one that closes it. */
+    private static String enclosed(String code, int start, char opening, char closing) {
         int depth = 1;
         int end = start;
         while (depth > 0) {
             char c = code.charAt(end);
-            depth += c == '(' ? 1 : c == ')' ? -1 : 0;
+            depth += c == opening ? 1 : c == closing ? -1 : 0;
             end++;
         }
         return code.substring(start, end - 1);
